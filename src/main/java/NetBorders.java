@@ -18,8 +18,8 @@ public final class NetBorders {
     private static final int ALL_ARCS = 0xFFFF;
     private static final int BARRED = -1;
     private static final int NO_LIMIT = 0x7FFFFFFF;
-    /* Uncrossing ends by itself, as it makes sets ever less alike in size; families of all sets
-       took some 430 steps. */
+    /* Uncrossing ends by itself, as each step makes the sum of times * nodes * nodes greater;
+       families of all sets there are took some 430 steps. */
     private static final int MOST_CROSSINGS = 1000000;
 
     private final Bench now = new Bench();
@@ -199,7 +199,7 @@ public final class NetBorders {
         search.priceWithTies(now.net);
         search.findBelow(NO_LIMIT);
         now.chosen = search.bestArcs;
-        return now.net.weightOf(search.bestArcs);
+        return sumOver(now.net.weight, search.bestArcs);
     }
 
     public int chosen() {
@@ -298,6 +298,16 @@ public final class NetBorders {
 
     private static boolean contains(int set, int k) {
         return (set >> k & 1) != 0;
+    }
+
+    private static int sumOver(int[] row, int set) {
+        int sum = 0;
+        for (int a = 0; a < MOST_ARCS; a++) {
+            if (contains(set, a)) {
+                sum += row[a];
+            }
+        }
+        return sum;
     }
 
     private boolean isWhole() {
@@ -405,33 +415,21 @@ public final class NetBorders {
         }
 
         int arcsFrom(int v) {
-            int found = NO_ARCS;
-            for (int a = 0; a < arcs; a++) {
-                if (tail[a] == v) {
-                    found |= 1 << a;
-                }
-            }
-            return found;
+            return arcsAt(tail, v);
         }
 
         int arcsTo(int v) {
+            return arcsAt(head, v);
+        }
+
+        private int arcsAt(int[] ends, int v) {
             int found = NO_ARCS;
             for (int a = 0; a < arcs; a++) {
-                if (head[a] == v) {
+                if (ends[a] == v) {
                     found |= 1 << a;
                 }
             }
             return found;
-        }
-
-        int weightOf(int set) {
-            int sum = 0;
-            for (int a = 0; a < arcs; a++) {
-                if (contains(set, a)) {
-                    sum += weight[a];
-                }
-            }
-            return sum;
         }
 
         void copyFrom(Net other) {
@@ -813,8 +811,9 @@ public final class NetBorders {
         }
 
         /**
-         * How often a border can be drawn, with what then is left for others still `left` in all.
-         * Each dijoin J bounds it: what J weighs beyond `left` pays for meeting it more than once.
+         * How often a border can be drawn so that, with the best that the prices left then allow,
+         * there are still `left` times in all. Each dijoin bounds it: what its price is beyond
+         * `left` must pay for the border's arcs in it but one.
          */
         int mostTimes(int ofBorder, int left) {
             int times = left;
@@ -837,17 +836,7 @@ public final class NetBorders {
 
         private int timesBy(int dijoin, int ofBorder, int left) {
             int meets = Integer.bitCount(dijoin & ofBorder);
-            return meets < 2 ? 0 : (priceOf(dijoin) - left) / (meets - 1);
-        }
-
-        private int priceOf(int set) {
-            int sum = 0;
-            for (int a = 0; a < arcs; a++) {
-                if (contains(set, a)) {
-                    sum += price[a];
-                }
-            }
-            return sum;
+            return meets < 2 ? 0 : (sumOver(price, dijoin) - left) / (meets - 1);
         }
     }
 }

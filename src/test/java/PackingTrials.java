@@ -3,7 +3,8 @@ import java.util.Random;
 /**
  * Small nets whose packings are all tried out, one by one: none that fits may be greater than the
  * one that packing() answers. Nothing here knows that the two numbers are the same, but for the
- * check that they are.
+ * check that they are. Greater nets are spared what cannot lead to more times in all: each side
+ * still to be drawn takes from what a dijoin's arcs have left.
  */
 public final class PackingTrials {
     private static int wrong = 0;
@@ -14,6 +15,7 @@ public final class PackingTrials {
     private static int[] times;
     private static int[] best;
     private static int bestTotal;
+    private static int dijoin;
 
     private static void expect(boolean holds, String what) {
         if (!holds) {
@@ -24,6 +26,9 @@ public final class PackingTrials {
 
     /** From the most times down, side after side: the first found of the most in all is greatest. */
     private static void tryFrom(int side, int total) {
+        if (total + leftOn(dijoin) <= bestTotal) {
+            return;
+        }
         if (side == sides) {
             if (total > bestTotal) {
                 bestTotal = total;
@@ -46,6 +51,14 @@ public final class PackingTrials {
         times[side] = 0;
     }
 
+    private static int leftOn(int arcs) {
+        int sum = 0;
+        for (int a = 0; a < left.length; a++) {
+            sum += (arcs >> a & 1) != 0 ? left[a] : 0;
+        }
+        return sum;
+    }
+
     private static void lower(int arcs, int by) {
         for (int a = 0; a < left.length; a++) {
             if ((arcs >> a & 1) != 0) {
@@ -54,17 +67,17 @@ public final class PackingTrials {
         }
     }
 
-    private static void trial(long seed) {
+    private static void trial(long seed, boolean great) {
         Random random = new Random(seed);
         NetBorders x = new NetBorders();
-        int n = 1 + random.nextInt(5);
+        int n = great ? 6 + random.nextInt(3) : 1 + random.nextInt(5);
         x.begin(n);
-        int arcs = random.nextInt(9);
-        int mostWeight = 1 + random.nextInt(4);
+        int arcs = great ? n + random.nextInt(17 - n) : random.nextInt(9);
+        int mostWeight = 1 + random.nextInt(great ? 6 : 4);
         StringBuilder told = new StringBuilder("seed " + seed + ", n " + n + ":");
         for (int a = 0; a < arcs; a++) {
-            int t = random.nextInt(n);
-            int h = random.nextInt(n);
+            int t = great ? perm(random.nextInt(n / 2), n, seed) : random.nextInt(n);
+            int h = great ? perm(n / 2 + random.nextInt(n - n / 2), n, seed) : random.nextInt(n);
             int w = random.nextInt(mostWeight + 1);
             x.arc(t, h, w);
             told.append(" ").append(t).append(">").append(h).append("/").append(w);
@@ -84,10 +97,25 @@ public final class PackingTrials {
         }
         times = new int[sides];
         bestTotal = -1;
+        dijoin = great ? takeDijoin(x, told.toString()) : -1;
         tryFrom(0, 0);
         expect(x.packing() == bestTotal, told + ": packing, due is " + bestTotal);
         expect(x.dijoin() == bestTotal, told + ": dijoin, due is " + bestTotal);
         compare(x, told.toString());
+    }
+
+    /** Another number for each node, so that sources and ends are mixed. */
+    private static int perm(int v, int n, long seed) {
+        int step = n == 6 ? 5 : 3;
+        return (int) ((v * step + seed) % n);
+    }
+
+    private static int takeDijoin(NetBorders x, String told) {
+        x.dijoin();
+        for (int k = 0; k < sides; k++) {
+            expect((border[k] & x.chosen()) != 0, told + ": side " + k + " is not met");
+        }
+        return x.chosen();
     }
 
     private static void compare(NetBorders x, String told) {
@@ -112,7 +140,7 @@ public final class PackingTrials {
     public static void main(String[] args) {
         int trials = args.length > 0 ? Integer.parseInt(args[0]) : 4000;
         for (int i = 0; i < trials; i++) {
-            trial(i);
+            trial(i, i % 3 == 0);
         }
         System.out.println("PackingTrials: " + trials + " nets, " + wrong + " wrong");
         if (wrong != 0) {
